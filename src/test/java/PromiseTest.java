@@ -29,6 +29,7 @@ public final class PromiseTest {
         promise11Price();
         promise11PriceWithOrder();
         promise11PriceOfManyPairings();
+        promise11PriceOfFourTables();
         promise12Best();
         promise12BestOfSeveral();
         promise13Spans();
@@ -91,6 +92,21 @@ public final class PromiseTest {
         PlanCabinet c = tables(2, 2, 8);
         c.pair(0, 0, 1, 0, 0);
         c.pair(1, 0, 2, 0, 4);
+        return c;
+    }
+
+    /** Keen are 21 + 14x, from 7/5 on 35 + 4x and from 7/2 on 49. */
+    private static PlanCabinet threeSpans() {
+        PlanCabinet c = tables(2, 4, 7);
+        c.pair(0, 0, 1, 0, 0);
+        c.pair(1, 0, 2, 0, 1);
+        return c;
+    }
+
+    /** With the order of 0, 0 keen are 28 + 28x and from 6/7 on 52, which is IN ORDER. */
+    private static PlanCabinet threeInOrder() {
+        PlanCabinet c = three();
+        c.order(0, 0);
         return c;
     }
 
@@ -505,6 +521,29 @@ public final class PromiseTest {
         priceIs(great, 6, 32 + 64 + 512 + 4096 + 3 * 4096, 0, 4096, 0);
     }
 
+    private static void promise11PriceOfFourTables() {
+        promise = 11;
+        PlanCabinet c = tables(4, 4, 4, 4);
+        c.pair(0, 0, 1, 0, 0);
+        c.pair(1, 0, 2, 0, 1);
+        c.pair(2, 0, 3, 0, 1);
+        for (int t = 0; t < 4; t++) {
+            c.read(t);
+        }
+        c.join(0, 0, 1);
+        c.join(0, 4, 2);
+        priceIs(c, 5, 28, 16, 0, 4);
+        c.join(0, 3, 5);
+        priceIs(c, 6, 32, 16 + 16, 0, 4);
+        c.join(1, 5, 3);
+        priceIs(c, 7, 32 + 8, 16 + 8, 0, 4);
+        c.join(2, 3, 5);
+        priceIs(c, 8, 32 + 12, 16 + 12, 0, 4);
+        c.join(0, 2, 3);
+        c.join(0, 4, 9);
+        priceIs(c, 10, 16 + 16 + 16, 4 * 4, 0, 4);
+    }
+
     // ---- the best
 
     private static void promise12Best() {
@@ -547,6 +586,27 @@ public final class PromiseTest {
         codeIs(c, 0, 6, 0, 1);
         due("8 and 24", 32 * 256, c.price(0, 0));
         due("in order", 1, c.about(0, 2));
+        PlanCabinet start = tables(1, 2, 4);
+        start.pair(0, 0, 2, 0, 0);
+        start.pair(0, 0, 1, 0, 1);
+        // 11 + 2x with 0 and 2 first, 11 with 0 and 1 first: alike at 0, where no span is.
+        due("11 + 2x at 0", 0, start.best(0));
+        codeIs(start, 0, 4, 1, 4, 0, 2);
+        due("11 behind it", 1, start.best(1));
+        codeIs(start, 1, 4, 2, 4, 0, 1);
+        due("the keen one", 2, start.keen(0));
+        codeIs(start, 2, 4, 2, 4, 0, 1);
+        due("no other", 1, start.spans());
+        PlanCabinet end = tables(2, 4, 8);
+        end.pair(0, 0, 1, 0, 0);
+        end.pair(1, 0, 2, 0, 1);
+        // 22 + 16x, from 4/3 on 38 + 4x; and 54 is alike at 4, where no span is.
+        due("54 at 4", 0, end.best(32));
+        codeIs(end, 0, 4, 0, 5, 1, 2);
+        due("38 + 4x before", 1, end.best(31));
+        codeIs(end, 1, 5, 2, 4, 0, 1);
+        due("two spans", 2, end.spans());
+        borderIs(end, 0, 0, 1, 4, 3);
         PlanCabinet one = tables(5);
         one.order(0, 1);
         due("one table", 0, one.best(0));
@@ -564,6 +624,8 @@ public final class PromiseTest {
         due("one plan", 1, c.spans());
         due("two tables", 1, two().spans());
         due("three tables", 2, three().spans());
+        due("three spans", 3, threeSpans().spans());
+        due("with an order", 2, threeInOrder().spans());
         PlanCabinet closed = tables(4, 4, 4);
         closed.pair(0, 0, 1, 0, 3);
         closed.pair(1, 0, 2, 0, 1);
@@ -600,6 +662,16 @@ public final class PromiseTest {
         borderIs(fraction, 1, 1, 3, 4, 1);
         borderIs(wide(), 0, 0, 1, 8, 3);
         borderIs(wide(), 1, 8, 3, 4, 1);
+        borderIs(threeSpans(), 0, 0, 1, 7, 5);
+        borderIs(threeSpans(), 1, 7, 5, 7, 2);
+        borderIs(threeSpans(), 2, 7, 2, 4, 1);
+        borderIs(threeInOrder(), 0, 0, 1, 6, 7);
+        borderIs(threeInOrder(), 1, 6, 7, 4, 1);
+        PlanCabinet later = threeSpans();
+        later.spans();
+        later.table();
+        due("no longer whole", NO, later.border(0, 0));
+        due("no longer whole", NO, later.border(1, 3));
     }
 
     private static void borderIs(PlanCabinet c, int i, int from, int fromBelow, int to, int toBelow) {
@@ -627,6 +699,24 @@ public final class PromiseTest {
         fillPlans(c);
         due("full", FULL, c.keen(0));
         due("full, third", NONE, c.keen(2));
+        PlanCabinet more = threeSpans();
+        more.keen(2);
+        more.keen(1);
+        more.keen(0);
+        codeIs(more, 0, 4, 0, 5, 1, 2);
+        codeIs(more, 1, 5, 2, 4, 0, 1);
+        codeIs(more, 2, 4, 2, 4, 0, 1);
+        due("35", 35 * 256, more.price(1, 0));
+        due("4x", 4 * 256, more.price(1, 1));
+        PlanCabinet order = threeInOrder();
+        order.keen(0);
+        order.keen(1);
+        codeIs(order, 0, 4, 2, 4, 0, 1);
+        codeIs(order, 1, 6, 0, 4, 1, 2);
+        priceIs(order, 0, 28, 28, 0, 4);
+        priceIs(order, 1, 52, 0, 0, 4);
+        due("not in order", 0, order.about(0, 2));
+        due("in order", 1, order.about(1, 2));
         due("full, -1", NONE, c.keen(-1));
     }
 
@@ -707,6 +797,10 @@ public final class PromiseTest {
         // Greatest regrets 92 / 44 and 44 / 28.
         due("the second one", 1, three().blind());
         due("the first one", 0, wide().blind());
+        // 77 / 49, 35 / 21 and 49 / 21.
+        due("the first of three", 0, threeSpans().blind());
+        // 140 / 52 and 52 / 28.
+        due("with an order", 1, threeInOrder().blind());
         // Without an OPEN share all regrets of the one keen plan are 1.
         PlanCabinet closed = tables(2, 2);
         closed.pair(0, 0, 1, 0, 2);
@@ -731,6 +825,11 @@ public final class PromiseTest {
         due("exactly 20", 1, wide().cover(20));
         due("not 19", 3, wide().cover(19));
         due("the first of two that are enough", 1, wide().cover(100));
+        // The first two need 51 / 49 at 4, the first one alone 77 / 49.
+        due("three", 7, threeSpans().cover(4));
+        due("two", 3, threeSpans().cover(5));
+        due("the first two of those that are enough", 3, threeSpans().cover(57));
+        due("one", 1, threeSpans().cover(58));
         due("one span", 1, two().cover(0));
         due("d HIGH", BAD, c.cover(HIGH));
         due("no plans come", 0, c.count(3));
@@ -820,6 +919,7 @@ public final class PromiseTest {
         signs.join(2, 0, 1);
         due("signs", 4, signs.run(2));
         outIs(signs, 2, 2, 3, 3, 1, 1, 0, 0);
+        sortedByColumnsOfEachSide();
         PlanCabinet least = mixed();
         least.pair(0, 2, 1, 2, 2);
         least.read(0);
@@ -827,6 +927,36 @@ public final class PromiseTest {
         least.join(2, 0, 1);
         due("by the least pairing", 1, least.run(2));
         outIs(least, 3, 3);
+    }
+
+    private static void sortedByColumnsOfEachSide() {
+        PlanCabinet c = new PlanCabinet();
+        c.table();
+        c.table();
+        // Eight values that fall, each in a column of its own number; the other columns rise.
+        for (int row = 0; row < 8; row++) {
+            c.row(0, row, -row, row);
+            c.row(1, row, row, -row);
+        }
+        c.pair(0, 1, 1, 2, 1);
+        c.order(1, 0);
+        c.read(0);
+        c.read(1);
+        c.join(2, 0, 1);
+        c.join(2, 1, 0);
+        due("put in order again", 8, c.run(3));
+        outIs(c, 0, 0, 1, 1, 2, 2, 3, 3, 4, 4, 5, 5, 6, 6, 7, 7);
+        c.clear();
+        c.order(1, 2);
+        c.read(0);
+        c.read(1);
+        c.join(2, 0, 1);
+        c.join(2, 1, 0);
+        for (int plan = 2; plan < 4; plan++) {
+            due("falling rows", 8, c.run(plan));
+            outIs(c, 7, 7, 6, 6, 5, 5, 4, 4, 3, 3, 2, 2, 1, 1, 0, 0);
+            due("in order", 16 + 48, c.steps());
+        }
     }
 
     private static void promise20RunInOrder() {

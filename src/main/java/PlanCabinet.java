@@ -731,13 +731,14 @@ public final class PlanCabinet {
             this.below = below;
             this.slope = slope;
             int all = question.allTables();
-            for (int set = 1; set <= all && set < SETS; set++) {
+            for (int set = 0; set < SETS; set++) {
                 codes[set] = NONE;
-                if (Integer.bitCount(set) == 1) {
-                    offerRead(set);
-                } else {
-                    offerJoins(set);
-                }
+            }
+            for (int t = 0; t < question.tableCount && t < TABLES; t++) {
+                offerRead(t);
+            }
+            for (int set = 1; set <= all && set < SETS; set++) {
+                offerJoins(set);
             }
             if (all <= 0 || all >= SETS || codes[all] == NONE) {
                 return null;
@@ -745,10 +746,11 @@ public final class PlanCabinet {
             return new Plan(all, codes[all], a[all], b[all], inOrder[all]);
         }
 
-        private void offerRead(int set) {
+        private void offerRead(int t) {
+            int set = 1 << t;
             a[set] = prices.readA(set);
             b[set] = 0;
-            codes[set] = Integer.numberOfTrailingZeros(set);
+            codes[set] = t;
             inOrder[set] = false;
         }
 
@@ -980,8 +982,9 @@ public final class PlanCabinet {
             if (more != 0) {
                 return more < 0;
             }
-            // Of two sets of one number that has the earlier plan which has the lowest odd bit.
-            return (set & Integer.lowestOneBit(set ^ other)) != 0;
+            // Where two sets of as many plans first differ, the earlier plan's bit is the lower one.
+            int differing = set ^ other;
+            return (set & differing & -differing) != 0;
         }
 
         private boolean isEnough(int set) {
@@ -1008,6 +1011,8 @@ public final class PlanCabinet {
         private final int[] sets = new int[TABLES];
         private final int[] ranks = new int[ROWS];
         private final int[] places = new int[ROWS + 1];
+        private final int[] between = new int[PAIRINGS];
+        private int betweenCount;
         private int depth;
         private int resultSet;
         private int resultCount;
@@ -1078,16 +1083,17 @@ public final class PlanCabinet {
             }
             int left = sets[depth - 1];
             int right = sets[depth - 2];
+            findBetween(left, right);
             int rightFrom = starts[depth - 2];
             int leftFrom = starts[depth - 1];
             int leftTo = starts[depth];
             stepCount += joinSteps(kind, leftTo - leftFrom, leftFrom - rightFrom);
             if (kind == SORTED) {
                 // What is joined to a left one has its value: to sort the left ones sorts all.
-                int p = question.leastBetween(left, right);
+                int p = between[0];
                 sort(leftFrom, leftTo, question.tableOn(p, left), question.columnOn(p, left));
             }
-            int found = combine(left, right);
+            int found = combine();
             depth--;
             sets[depth - 1] = left | right;
             if (found <= joined.length && rightFrom + found <= stack.length) {
@@ -1104,12 +1110,12 @@ public final class PlanCabinet {
         }
 
         /** Writes the combinations of the two topmost parts for which all between them holds. */
-        private int combine(int left, int right) {
+        private int combine() {
             int found = 0;
             for (int i = starts[depth - 1]; i < starts[depth]; i++) {
                 for (int k = starts[depth - 2]; k < starts[depth - 1]; k++) {
                     int combination = stack[i] | stack[k];
-                    if (found < joined.length && isHeldBetween(combination, left, right)) {
+                    if (found < joined.length && isHeldBetween(combination)) {
                         joined[found] = combination;
                         found++;
                     }
@@ -1118,9 +1124,20 @@ public final class PlanCabinet {
             return found;
         }
 
-        private boolean isHeldBetween(int combination, int left, int right) {
-            for (int p = 0; p < question.pairingCount; p++) {
-                if (question.isBetween(p, left, right) && !question.isHeld(p, combination)) {
+        /** Kept for a whole join, which asks for them at each combination. */
+        private void findBetween(int left, int right) {
+            betweenCount = 0;
+            for (int p = 0; p < PAIRINGS; p++) {
+                if (question.isBetween(p, left, right)) {
+                    between[betweenCount] = p;
+                    betweenCount++;
+                }
+            }
+        }
+
+        private boolean isHeldBetween(int combination) {
+            for (int i = 0; i < betweenCount && i < PAIRINGS; i++) {
+                if (!question.isHeld(between[i], combination)) {
                     return false;
                 }
             }

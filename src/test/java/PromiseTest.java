@@ -957,6 +957,17 @@ public final class PromiseTest {
             outIs(c, 7, 7, 6, 6, 5, 5, 4, 4, 3, 3, 2, 2, 1, 1, 0, 0);
             due("in order", 16 + 48, c.steps());
         }
+        PlanCabinet small = tables(0, 0);
+        for (int row = 0; row < 2; row++) {
+            small.row(0, -row, 0, 0);
+            small.row(1, -row, 0, 0);
+        }
+        small.pair(0, 0, 1, 0, 1);
+        small.read(0);
+        small.read(1);
+        small.join(2, 0, 1);
+        due("two falling rows", 2, small.run(2));
+        outIs(small, 1, 1, 0, 0);
     }
 
     private static void promise20RunInOrder() {

@@ -23,9 +23,10 @@ public final class RoomTest {
 
         start = allocated();
         for (int i = 0; i < CALLS / 2; i++) {
-            c.order(i % 4, 0);
+            c.order(1 + i % 2, 2);
             c.spans();
         }
+        Check.due("spans", 7, c.spans());
         check(counts, "spans told anew", BYTES_FOR_ONE_RUN, allocated() - start);
 
         start = allocated();
@@ -53,7 +54,7 @@ public final class RoomTest {
         }
     }
 
-    /** A question with seven spans, the most that were ever seen. */
+    /** With the orders that are set above it has seven spans, the most that a search found. */
     private static PlanCabinet great() {
         PlanCabinet c = new PlanCabinet();
         int[] rows = {8, 8, 6, 4};

@@ -1,9 +1,17 @@
+import java.util.function.IntToLongFunction;
+
 /** Counts what is as due and what is not, and ends a test with the exit code that tells it. */
 final class Check {
     private static int right = 0;
     private static int wrong = 0;
+    private static String sentence = "";
 
     private Check() {
+    }
+
+    /** Names the sentence of the document that is looked at from here on. */
+    static void sentence(String words) {
+        sentence = words + ": ";
     }
 
     static void due(String what, long want, long got) {
@@ -11,7 +19,14 @@ final class Check {
             right++;
         } else {
             wrong++;
-            System.out.println(what + " answered " + got + ", due is " + want);
+            System.out.println(sentence + what + " answered " + got + ", due is " + want);
+        }
+    }
+
+    /** One call for each of several arguments, with the same answer due. */
+    static void dueForEach(String what, long want, IntToLongFunction call, int... arguments) {
+        for (int argument : arguments) {
+            due(what + " " + argument, want, call.applyAsLong(argument));
         }
     }
 
@@ -20,7 +35,7 @@ final class Check {
             right++;
         } else {
             wrong++;
-            System.out.println(what + " does not hold");
+            System.out.println(sentence + what + " does not hold");
         }
     }
 

@@ -56,66 +56,6 @@ public final class PromiseTest {
         Check.due("promise " + promise + ": " + call, want, got);
     }
 
-    // ---- questions that several promises use
-
-    private static PlanCabinet tables(int... rowCounts) {
-        PlanCabinet c = new PlanCabinet();
-        for (int t = 0; t < rowCounts.length; t++) {
-            c.table();
-            for (int row = 0; row < rowCounts[t]; row++) {
-                c.row(t, row, 10 * row, 7);
-            }
-        }
-        return c;
-    }
-
-    /** Two tables of 2 and 3 rows and an OPEN share: NEST costs 5 + 6, DEALT 5 + 10, SORTED 5 + 15. */
-    private static PlanCabinet two() {
-        PlanCabinet c = tables(2, 3);
-        c.pair(0, 0, 1, 0, 0);
-        return c;
-    }
-
-    /**
-     * Three tables of 4 rows in a row, 0 - 1 OPEN and 1 - 2 a quarter. Sizes: of 0 and 1 together
-     * 4x, of 1 and 2 together 4.
-     */
-    private static PlanCabinet three() {
-        PlanCabinet c = tables(4, 4, 4);
-        c.pair(0, 0, 1, 0, 0);
-        c.pair(1, 0, 2, 0, 1);
-        return c;
-    }
-
-    /** Keen are 16 + 8x and from 8/3 on 32 + 2x: greatest regrets 48 / 40 and 32 / 16. */
-    private static PlanCabinet wide() {
-        PlanCabinet c = tables(2, 2, 8);
-        c.pair(0, 0, 1, 0, 0);
-        c.pair(1, 0, 2, 0, 4);
-        return c;
-    }
-
-    /** Keen are 21 + 14x, from 7/5 on 35 + 4x and from 7/2 on 49. */
-    private static PlanCabinet threeSpans() {
-        PlanCabinet c = tables(2, 4, 7);
-        c.pair(0, 0, 1, 0, 0);
-        c.pair(1, 0, 2, 0, 1);
-        return c;
-    }
-
-    /** With the order of 0, 0 keen are 28 + 28x and from 6/7 on 52, which is IN ORDER. */
-    private static PlanCabinet threeInOrder() {
-        PlanCabinet c = three();
-        c.order(0, 0);
-        return c;
-    }
-
-    private static void fillPlans(PlanCabinet c) {
-        for (int i = c.count(3); i < 60; i++) {
-            c.read(0);
-        }
-    }
-
     // ---- the question
 
     private static void promise1NewObject() {
@@ -147,14 +87,14 @@ public final class PromiseTest {
         }
         due("a fifth", FULL, c.table());
         due("tables", 4, c.count(0));
-        PlanCabinet d = tables(1);
+        PlanCabinet d = Questions.tables(1);
         d.read(0);
         due("with a plan", STATE, d.table());
         due("tables", 1, d.count(0));
         d.clear();
         due("without plans again", 1, d.table());
         due("no longer whole", 0, d.count(5));
-        PlanCabinet e = tables(1, 1, 1, 1);
+        PlanCabinet e = Questions.tables(1, 1, 1, 1);
         e.pair(0, 0, 1, 0, 1);
         e.pair(0, 0, 2, 0, 1);
         e.pair(0, 0, 3, 0, 1);
@@ -164,7 +104,7 @@ public final class PromiseTest {
 
     private static void promise3Row() {
         promise = 3;
-        PlanCabinet c = tables(0, 0);
+        PlanCabinet c = Questions.tables(0, 0);
         for (int row = 0; row < 8; row++) {
             due("row " + row, row, c.row(1, LOW, HIGH, row));
         }
@@ -185,7 +125,7 @@ public final class PromiseTest {
 
     private static void promise4Pair() {
         promise = 4;
-        PlanCabinet c = tables(2, 2, 2);
+        PlanCabinet c = Questions.tables(2, 2, 2);
         due("first", 0, c.pair(0, 0, 1, 2, 4));
         due("not open", NONE, c.count(4));
         due("open", 1, c.pair(1, 1, 2, 0, 0));
@@ -198,7 +138,7 @@ public final class PromiseTest {
 
     private static void promise4PairRefusals() {
         promise = 4;
-        PlanCabinet c = tables(2, 2);
+        PlanCabinet c = Questions.tables(2, 2);
         due("t", NONE, c.pair(-1, 0, 1, 0, 1));
         due("t too great", NONE, c.pair(2, 0, 1, 0, 1));
         due("u", NONE, c.pair(0, 0, 2, 0, 1));
@@ -230,7 +170,7 @@ public final class PromiseTest {
 
     private static void promise5Order() {
         promise = 5;
-        PlanCabinet c = tables(2);
+        PlanCabinet c = Questions.tables(2);
         due("no table", NONE, c.order(1, 0));
         due("table -2", NONE, c.order(-2, 0));
         due("column 3", NONE, c.order(0, 3));
@@ -256,7 +196,7 @@ public final class PromiseTest {
         promise = 6;
         PlanCabinet c = new PlanCabinet();
         due("of none", 0, c.clear());
-        c = two();
+        c = Questions.two();
         c.read(0);
         c.read(1);
         c.join(0, 0, 1);
@@ -308,7 +248,7 @@ public final class PromiseTest {
 
     private static void promise8Join() {
         promise = 8;
-        PlanCabinet c = three();
+        PlanCabinet c = Questions.three();
         c.read(0);
         c.read(1);
         c.read(2);
@@ -322,7 +262,7 @@ public final class PromiseTest {
 
     private static void promise8JoinRefusals() {
         promise = 8;
-        PlanCabinet c = three();
+        PlanCabinet c = Questions.three();
         due("no plans", NONE, c.join(0, 0, 0));
         c.read(0);
         c.read(1);
@@ -341,7 +281,7 @@ public final class PromiseTest {
         due("a table in both", STATE, c.join(0, 3, 1));
         due("a table in both, turned", STATE, c.join(0, 1, 3));
         due("plans", 4, c.count(3));
-        fillPlans(c);
+        Questions.fillPlans(c);
         due("full", FULL, c.join(0, 0, 1));
         due("full and no pairing", STATE, c.join(0, 0, 2));
         due("full and kind", BAD, c.join(9, 0, 1));
@@ -349,7 +289,7 @@ public final class PromiseTest {
 
     private static void promise9Code() {
         promise = 9;
-        PlanCabinet c = three();
+        PlanCabinet c = Questions.three();
         c.read(2);
         c.read(1);
         c.read(0);
@@ -362,7 +302,7 @@ public final class PromiseTest {
         due("plan -1", NONE, c.code(-1, 0));
         due("number LOW", NONE, c.code(4, LOW));
         due("number HIGH", NONE, c.code(4, HIGH));
-        PlanCabinet four = tables(1, 1, 1, 1);
+        PlanCabinet four = Questions.tables(1, 1, 1, 1);
         four.pair(0, 0, 1, 0, 1);
         four.pair(1, 0, 2, 0, 1);
         four.pair(2, 0, 3, 0, 1);
@@ -386,7 +326,7 @@ public final class PromiseTest {
 
     private static void promise10About() {
         promise = 10;
-        PlanCabinet c = three();
+        PlanCabinet c = Questions.three();
         c.pair(0, 1, 1, 1, 2);
         c.order(1, 0);
         c.read(0);
@@ -424,7 +364,7 @@ public final class PromiseTest {
         c.read(1);
         c.join(2, 0, 1);
         due("no order", 0, c.about(2, 2));
-        PlanCabinet one = tables(3);
+        PlanCabinet one = Questions.tables(3);
         one.read(0);
         due("one table is all", 1, one.about(0, 3));
     }
@@ -438,7 +378,7 @@ public final class PromiseTest {
 
     private static void promise11Price() {
         promise = 11;
-        PlanCabinet c = three();
+        PlanCabinet c = Questions.three();
         c.read(0);
         c.read(1);
         c.read(2);
@@ -474,7 +414,7 @@ public final class PromiseTest {
 
     private static void promise11PriceWithOrder() {
         promise = 11;
-        PlanCabinet c = three();
+        PlanCabinet c = Questions.three();
         c.order(1, 0);
         c.read(0);
         c.read(1);
@@ -497,7 +437,7 @@ public final class PromiseTest {
 
     private static void promise11PriceOfManyPairings() {
         promise = 11;
-        PlanCabinet c = tables(3, 1);
+        PlanCabinet c = Questions.tables(3, 1);
         c.pair(0, 0, 1, 0, 1);
         c.pair(0, 1, 1, 0, 3);
         c.pair(0, 2, 1, 0, 1);
@@ -507,7 +447,7 @@ public final class PromiseTest {
         c.join(0, 0, 1);
         due("A of the size", 0, c.price(2, 2));
         due("B: 3 rows, 1 * 3 * 1 of 4 * 4 * 4, a quarter", 3 * 3, c.price(2, 3));
-        PlanCabinet great = tables(8, 8, 8, 8);
+        PlanCabinet great = Questions.tables(8, 8, 8, 8);
         great.pair(0, 0, 1, 0, 4);
         great.pair(0, 0, 2, 0, 4);
         great.pair(0, 0, 3, 0, 4);
@@ -523,7 +463,7 @@ public final class PromiseTest {
 
     private static void promise11PriceOfFourTables() {
         promise = 11;
-        PlanCabinet c = tables(4, 4, 4, 4);
+        PlanCabinet c = Questions.tables(4, 4, 4, 4);
         c.pair(0, 0, 1, 0, 0);
         c.pair(1, 0, 2, 0, 1);
         c.pair(2, 0, 3, 0, 1);
@@ -553,7 +493,7 @@ public final class PromiseTest {
         due("point -1", NONE, c.best(-1));
         due("not whole", STATE, c.best(0));
         due("not whole, point 32", STATE, c.best(32));
-        c = three();
+        c = Questions.three();
         // 0 and 1 first costs 28 + 16x, 1 and 2 first 44.
         due("at 0", 0, c.best(0));
         codeIs(c, 0, 4, 2, 4, 0, 1);
@@ -568,7 +508,7 @@ public final class PromiseTest {
         due("at 4", 3, c.best(32));
         codeIs(c, 3, 4, 0, 4, 1, 2);
         due("plans", 4, c.count(3));
-        fillPlans(c);
+        Questions.fillPlans(c);
         due("full", FULL, c.best(0));
         due("full, point 33", NONE, c.best(33));
         due("full, point HIGH", NONE, c.best(HIGH));
@@ -576,7 +516,7 @@ public final class PromiseTest {
 
     private static void promise12BestOfSeveral() {
         promise = 12;
-        PlanCabinet c = tables(4, 4);
+        PlanCabinet c = Questions.tables(4, 4);
         c.pair(0, 0, 1, 0, 2);
         due("NEST and DEALT cost alike", 0, c.best(5));
         codeIs(c, 0, 4, 0, 1);
@@ -586,7 +526,7 @@ public final class PromiseTest {
         codeIs(c, 0, 6, 0, 1);
         due("8 and 24", 32 * 256, c.price(0, 0));
         due("in order", 1, c.about(0, 2));
-        PlanCabinet start = tables(1, 2, 4);
+        PlanCabinet start = Questions.tables(1, 2, 4);
         start.pair(0, 0, 2, 0, 0);
         start.pair(0, 0, 1, 0, 1);
         // 11 + 2x with 0 and 2 first, 11 with 0 and 1 first: alike at 0, where no span is.
@@ -597,7 +537,7 @@ public final class PromiseTest {
         due("the keen one", 2, start.keen(0));
         codeIs(start, 2, 4, 2, 4, 0, 1);
         due("no other", 1, start.spans());
-        PlanCabinet end = tables(2, 4, 8);
+        PlanCabinet end = Questions.tables(2, 4, 8);
         end.pair(0, 0, 1, 0, 0);
         end.pair(1, 0, 2, 0, 1);
         // 22 + 16x, from 4/3 on 38 + 4x; and 54 is alike at 4, where no span is.
@@ -607,7 +547,7 @@ public final class PromiseTest {
         codeIs(end, 1, 5, 2, 4, 0, 1);
         due("two spans", 2, end.spans());
         borderIs(end, 0, 0, 1, 4, 3);
-        PlanCabinet one = tables(5);
+        PlanCabinet one = Questions.tables(5);
         one.order(0, 1);
         due("one table", 0, one.best(0));
         codeIs(one, 0, 0);
@@ -622,15 +562,15 @@ public final class PromiseTest {
         due("no row", STATE, c.spans());
         c.row(0, 0, 0, 0);
         due("one plan", 1, c.spans());
-        due("two tables", 1, two().spans());
-        due("three tables", 2, three().spans());
-        due("three spans", 3, threeSpans().spans());
-        due("with an order", 2, threeInOrder().spans());
-        PlanCabinet closed = tables(4, 4, 4);
+        due("two tables", 1, Questions.two().spans());
+        due("three tables", 2, Questions.three().spans());
+        due("three spans", 3, Questions.threeSpans().spans());
+        due("with an order", 2, Questions.threeInOrder().spans());
+        PlanCabinet closed = Questions.tables(4, 4, 4);
         closed.pair(0, 0, 1, 0, 3);
         closed.pair(1, 0, 2, 0, 1);
         due("nothing open", 1, closed.spans());
-        PlanCabinet again = three();
+        PlanCabinet again = Questions.three();
         due("before", 2, again.spans());
         again.row(0, 0, 0, 0);
         again.order(0, 0);
@@ -644,7 +584,7 @@ public final class PromiseTest {
         promise = 14;
         PlanCabinet c = new PlanCabinet();
         due("not whole", NO, c.border(0, 0));
-        c = three();
+        c = Questions.three();
         // From 0 on 28 + 16x; 1 and 2 first: 12 + 16 + 16 = 44 with DEALT or NEST: alike at x = 1.
         borderIs(c, 0, 0, 1, 1, 1);
         borderIs(c, 1, 1, 1, 4, 1);
@@ -653,21 +593,21 @@ public final class PromiseTest {
         due("span HIGH", NO, c.border(HIGH, 2));
         due("what 4", NO, c.border(0, 4));
         due("what -1", NO, c.border(0, -1));
-        borderIs(tables(3), 0, 0, 1, 4, 1);
-        PlanCabinet fraction = tables(3, 4, 2);
+        borderIs(Questions.tables(3), 0, 0, 1, 4, 1);
+        PlanCabinet fraction = Questions.tables(3, 4, 2);
         fraction.pair(0, 0, 1, 0, 0);
         fraction.pair(1, 0, 2, 0, 1);
         // 9 + 12 + 3x * 2 against 9 + 8 + 2 * 3, NEST each time: 21 + 6x and 23.
         borderIs(fraction, 0, 0, 1, 1, 3);
         borderIs(fraction, 1, 1, 3, 4, 1);
-        borderIs(wide(), 0, 0, 1, 8, 3);
-        borderIs(wide(), 1, 8, 3, 4, 1);
-        borderIs(threeSpans(), 0, 0, 1, 7, 5);
-        borderIs(threeSpans(), 1, 7, 5, 7, 2);
-        borderIs(threeSpans(), 2, 7, 2, 4, 1);
-        borderIs(threeInOrder(), 0, 0, 1, 6, 7);
-        borderIs(threeInOrder(), 1, 6, 7, 4, 1);
-        PlanCabinet later = threeSpans();
+        borderIs(Questions.wide(), 0, 0, 1, 8, 3);
+        borderIs(Questions.wide(), 1, 8, 3, 4, 1);
+        borderIs(Questions.threeSpans(), 0, 0, 1, 7, 5);
+        borderIs(Questions.threeSpans(), 1, 7, 5, 7, 2);
+        borderIs(Questions.threeSpans(), 2, 7, 2, 4, 1);
+        borderIs(Questions.threeInOrder(), 0, 0, 1, 6, 7);
+        borderIs(Questions.threeInOrder(), 1, 6, 7, 4, 1);
+        PlanCabinet later = Questions.threeSpans();
         later.spans();
         later.table();
         due("no longer whole", NO, later.border(0, 0));
@@ -687,7 +627,7 @@ public final class PromiseTest {
         due("not whole", STATE, c.keen(0));
         due("not whole, -1", NONE, c.keen(-1));
         due("not whole, LOW", NONE, c.keen(LOW));
-        c = three();
+        c = Questions.three();
         due("first", 0, c.keen(0));
         codeIs(c, 0, 4, 2, 4, 0, 1);
         due("second", 1, c.keen(1));
@@ -696,10 +636,10 @@ public final class PromiseTest {
         due("third span", NONE, c.keen(2));
         due("span HIGH", NONE, c.keen(HIGH));
         due("plans", 3, c.count(3));
-        fillPlans(c);
+        Questions.fillPlans(c);
         due("full", FULL, c.keen(0));
         due("full, third", NONE, c.keen(2));
-        PlanCabinet more = threeSpans();
+        PlanCabinet more = Questions.threeSpans();
         more.keen(2);
         more.keen(1);
         more.keen(0);
@@ -708,7 +648,7 @@ public final class PromiseTest {
         codeIs(more, 2, 4, 2, 4, 0, 1);
         due("35", 35 * 256, more.price(1, 0));
         due("4x", 4 * 256, more.price(1, 1));
-        PlanCabinet order = threeInOrder();
+        PlanCabinet order = Questions.threeInOrder();
         order.keen(0);
         order.keen(1);
         codeIs(order, 0, 4, 2, 4, 0, 1);
@@ -722,7 +662,7 @@ public final class PromiseTest {
 
     private static void promise16Near() {
         promise = 16;
-        PlanCabinet c = three();
+        PlanCabinet c = Questions.three();
         c.keen(0);
         c.keen(1);
         c.read(0);
@@ -746,14 +686,14 @@ public final class PromiseTest {
         due("d and not whole", BAD, c.near(2, 0, 10001));
         due("not a whole one", STATE, c.near(2, 0, 0));
         due("not a whole one, point", NONE, c.near(2, 33, 0));
-        PlanCabinet even = wide();
+        PlanCabinet even = Questions.wide();
         even.keen(0);
         even.keen(1);
         due("exactly 20 hundredths", 1, even.near(0, 32, 20));
         due("not 19", 0, even.near(0, 32, 19));
         due("exactly twice", 1, even.near(1, 0, 100));
         due("not 99", 0, even.near(1, 0, 99));
-        PlanCabinet exact = tables(4, 4);
+        PlanCabinet exact = Questions.tables(4, 4);
         exact.pair(0, 0, 1, 0, 4);
         exact.read(0);
         exact.read(1);
@@ -765,7 +705,7 @@ public final class PromiseTest {
 
     private static void promise17Worst() {
         promise = 17;
-        PlanCabinet c = three();
+        PlanCabinet c = Questions.three();
         c.keen(0);
         c.keen(1);
         c.read(0);
@@ -780,10 +720,10 @@ public final class PromiseTest {
         c.join(0, 5, 4);
         // 36 + 16x: 36 / 28 at 0 falls to 52 / 44 at 1 and grows to 100 / 44 at 4.
         due("both ends dearer", 32, c.worst(6));
-        PlanCabinet flat = two();
+        PlanCabinet flat = Questions.two();
         flat.best(0);
         due("1 everywhere: the least point", 0, flat.worst(0));
-        PlanCabinet wide = wide();
+        PlanCabinet wide = Questions.wide();
         wide.keen(0);
         wide.keen(1);
         due("first of two", 32, wide.worst(0));
@@ -793,16 +733,16 @@ public final class PromiseTest {
     private static void promise18Blind() {
         promise = 18;
         due("not whole", STATE, new PlanCabinet().blind());
-        due("one span", 0, two().blind());
+        due("one span", 0, Questions.two().blind());
         // Greatest regrets 92 / 44 and 44 / 28.
-        due("the second one", 1, three().blind());
-        due("the first one", 0, wide().blind());
+        due("the second one", 1, Questions.three().blind());
+        due("the first one", 0, Questions.wide().blind());
         // 77 / 49, 35 / 21 and 49 / 21.
-        due("the first of three", 0, threeSpans().blind());
+        due("the first of three", 0, Questions.threeSpans().blind());
         // 140 / 52 and 52 / 28.
-        due("with an order", 1, threeInOrder().blind());
+        due("with an order", 1, Questions.threeInOrder().blind());
         // Without an OPEN share all regrets of the one keen plan are 1.
-        PlanCabinet closed = tables(2, 2);
+        PlanCabinet closed = Questions.tables(2, 2);
         closed.pair(0, 0, 1, 0, 2);
         due("nothing open", 0, closed.blind());
     }
@@ -814,7 +754,7 @@ public final class PromiseTest {
         due("d 10001", BAD, c.cover(10001));
         due("not whole", STATE, c.cover(0));
         due("not whole, most", STATE, c.cover(10000));
-        c = three();
+        c = Questions.three();
         // Alone the first one needs 110 hundredths, the second one 58.
         due("0", 3, c.cover(0));
         due("57", 3, c.cover(57));
@@ -822,35 +762,20 @@ public final class PromiseTest {
         due("109", 2, c.cover(109));
         due("110", 1, c.cover(110));
         due("10000", 1, c.cover(10000));
-        due("exactly 20", 1, wide().cover(20));
-        due("not 19", 3, wide().cover(19));
-        due("the first of two that are enough", 1, wide().cover(100));
+        due("exactly 20", 1, Questions.wide().cover(20));
+        due("not 19", 3, Questions.wide().cover(19));
+        due("the first of two that are enough", 1, Questions.wide().cover(100));
         // The first two need 51 / 49 at 4, the first one alone 77 / 49.
-        due("three", 7, threeSpans().cover(4));
-        due("two", 3, threeSpans().cover(5));
-        due("the first two of those that are enough", 3, threeSpans().cover(57));
-        due("one", 1, threeSpans().cover(58));
-        due("one span", 1, two().cover(0));
+        due("three", 7, Questions.threeSpans().cover(4));
+        due("two", 3, Questions.threeSpans().cover(5));
+        due("the first two of those that are enough", 3, Questions.threeSpans().cover(57));
+        due("one", 1, Questions.threeSpans().cover(58));
+        due("one span", 1, Questions.two().cover(0));
         due("d HIGH", BAD, c.cover(HIGH));
         due("no plans come", 0, c.count(3));
     }
 
     // ---- runs
-
-    /** Rows (value, number): table 0: 3 1 2 1, table 1: 1 2 3 1. */
-    private static PlanCabinet mixed() {
-        PlanCabinet c = new PlanCabinet();
-        c.table();
-        c.table();
-        int[] low = {3, 1, 2, 1};
-        int[] high = {1, 2, 3, 1};
-        for (int row = 0; row < 4; row++) {
-            c.row(0, low[row], row % 2, -row);
-            c.row(1, high[row], row % 2, -row);
-        }
-        c.pair(0, 0, 1, 0, 2);
-        return c;
-    }
 
     private static void outIs(PlanCabinet c, int... rows) {
         for (int i = 0; i < rows.length / 2; i++) {
@@ -862,7 +787,7 @@ public final class PromiseTest {
 
     private static void promise20Run() {
         promise = 20;
-        PlanCabinet c = mixed();
+        PlanCabinet c = Questions.mixed();
         due("no plan", NONE, c.run(0));
         c.read(0);
         c.read(1);
@@ -878,14 +803,14 @@ public final class PromiseTest {
         due("plan 4", NONE, c.run(4));
         due("plan -1", NONE, c.run(-1));
         outIs(c, 1, 0, 3, 0, 2, 1, 0, 2, 1, 3, 3, 3);
-        PlanCabinet both = mixed();
+        PlanCabinet both = Questions.mixed();
         both.pair(0, 1, 1, 1, 1);
         both.read(0);
         both.read(1);
         both.join(0, 0, 1);
         due("all pairings between hold", 3, both.run(2));
         outIs(both, 0, 2, 1, 3, 3, 3);
-        PlanCabinet never = tables(2, 2);
+        PlanCabinet never = Questions.tables(2, 2);
         never.pair(0, 2, 1, 0, 1);
         never.read(0);
         never.read(1);
@@ -896,7 +821,7 @@ public final class PromiseTest {
 
     private static void promise20RunSorted() {
         promise = 20;
-        PlanCabinet c = mixed();
+        PlanCabinet c = Questions.mixed();
         c.read(0);
         c.read(1);
         c.join(2, 0, 1);
@@ -920,7 +845,7 @@ public final class PromiseTest {
         due("signs", 4, signs.run(2));
         outIs(signs, 2, 2, 3, 3, 1, 1, 0, 0);
         sortedByColumnsOfEachSide();
-        PlanCabinet least = mixed();
+        PlanCabinet least = Questions.mixed();
         least.pair(0, 2, 1, 2, 2);
         least.read(0);
         least.read(1);
@@ -957,7 +882,7 @@ public final class PromiseTest {
             outIs(c, 7, 7, 6, 6, 5, 5, 4, 4, 3, 3, 2, 2, 1, 1, 0, 0);
             due("in order", 16 + 48, c.steps());
         }
-        PlanCabinet small = tables(0, 0);
+        PlanCabinet small = Questions.tables(0, 0);
         for (int row = 0; row < 2; row++) {
             small.row(0, -row, 0, 0);
             small.row(1, -row, 0, 0);
@@ -972,7 +897,7 @@ public final class PromiseTest {
 
     private static void promise20RunInOrder() {
         promise = 20;
-        PlanCabinet c = mixed();
+        PlanCabinet c = Questions.mixed();
         c.order(1, 2);
         c.read(0);
         c.read(1);
@@ -994,7 +919,7 @@ public final class PromiseTest {
         due("SORTED, in order", 6, c.run(2));
         outIs(c, 1, 0, 1, 3, 3, 0, 3, 3, 2, 1, 0, 2);
         due("8 and 24", 32, c.steps());
-        PlanCabinet one = tables(0);
+        PlanCabinet one = Questions.tables(0);
         one.row(0, 5, 0, 0);
         one.row(0, 4, 0, 0);
         one.row(0, 5, 1, 0);
@@ -1009,7 +934,7 @@ public final class PromiseTest {
 
     private static void promise20RunOfAll() {
         promise = 20;
-        PlanCabinet c = tables(8, 8, 8, 8);
+        PlanCabinet c = Questions.tables(8, 8, 8, 8);
         c.pair(0, 2, 1, 2, 4);
         c.pair(1, 2, 2, 2, 4);
         c.pair(2, 2, 3, 2, 4);
@@ -1032,7 +957,7 @@ public final class PromiseTest {
         due("both halves", 4096, c.run(8));
         due("32 and 48 and 64 and 4096 and 3 * 4096", 32 + 48 + 64 + 4 * 4096, c.steps());
         due("out", 7, c.out(4095, 3));
-        PlanCabinet grown = tables(1);
+        PlanCabinet grown = Questions.tables(1);
         grown.read(0);
         grown.run(0);
         grown.clear();
@@ -1046,7 +971,7 @@ public final class PromiseTest {
 
     private static void promise21Steps() {
         promise = 21;
-        PlanCabinet c = mixed();
+        PlanCabinet c = Questions.mixed();
         due("no run", 0, c.steps());
         c.read(0);
         c.read(1);
@@ -1064,7 +989,7 @@ public final class PromiseTest {
         due("SORTED", 8 + 24, c.steps());
         c.run(5);
         due("a refused run changes nothing", 32, c.steps());
-        PlanCabinet d = three();
+        PlanCabinet d = Questions.three();
         d.read(0);
         d.read(1);
         d.read(2);
@@ -1079,7 +1004,7 @@ public final class PromiseTest {
 
     private static void promise22Out() {
         promise = 22;
-        PlanCabinet c = three();
+        PlanCabinet c = Questions.three();
         c.read(0);
         c.read(1);
         c.join(0, 0, 1);
@@ -1104,7 +1029,7 @@ public final class PromiseTest {
 
     private static void promise23Holds() {
         promise = 23;
-        PlanCabinet c = mixed();
+        PlanCabinet c = Questions.mixed();
         due("six", 6, c.holds(0));
         due("pairing 1", NONE, c.holds(1));
         due("pairing -1", NONE, c.holds(-1));
@@ -1117,14 +1042,14 @@ public final class PromiseTest {
         due("a table without rows", 0, c.holds(3));
         due("pairing 4", NONE, c.holds(4));
         due("pairing LOW", NONE, c.holds(LOW));
-        PlanCabinet all = tables(8, 8);
+        PlanCabinet all = Questions.tables(8, 8);
         all.pair(0, 2, 1, 2, 1);
         due("all", 64, all.holds(0));
     }
 
     private static void promise24Count() {
         promise = 24;
-        PlanCabinet c = tables(2, 3, 0);
+        PlanCabinet c = Questions.tables(2, 3, 0);
         due("tables", 3, c.count(0));
         due("rows", 5, c.count(1));
         due("pairings", 0, c.count(2));
@@ -1144,13 +1069,13 @@ public final class PromiseTest {
         due("what 7", NONE, c.count(7));
         due("what -1", NONE, c.count(-1));
         due("what LOW", NONE, c.count(LOW));
-        PlanCabinet apart = tables(1, 1, 1, 1);
+        PlanCabinet apart = Questions.tables(1, 1, 1, 1);
         apart.pair(0, 0, 1, 0, 1);
         apart.pair(2, 0, 3, 0, 1);
         due("two and two apart", 0, apart.count(5));
         apart.pair(1, 0, 3, 0, 0);
         due("joined by an open one", 1, apart.count(5));
-        PlanCabinet late = tables(1, 1, 1, 1);
+        PlanCabinet late = Questions.tables(1, 1, 1, 1);
         late.pair(2, 0, 3, 0, 1);
         late.pair(1, 0, 2, 0, 1);
         late.pair(0, 0, 1, 0, 1);
@@ -1160,22 +1085,22 @@ public final class PromiseTest {
     private static void promise24CountOfWholePlans() {
         promise = 24;
         due("no table", 0, new PlanCabinet().count(6));
-        due("one table", 1, tables(2).count(6));
-        due("two: 3 kinds, 2 orders", 6, two().count(6));
-        due("three in a row: 9 * 8", 72, three().count(6));
-        PlanCabinet triangle = three();
+        due("one table", 1, Questions.tables(2).count(6));
+        due("two: 3 kinds, 2 orders", 6, Questions.two().count(6));
+        due("three in a row: 9 * 8", 72, Questions.three().count(6));
+        PlanCabinet triangle = Questions.three();
         triangle.pair(0, 1, 2, 1, 2);
         due("a triangle: 9 * 12", 108, triangle.count(6));
         triangle.pair(0, 2, 2, 1, 2);
         due("a second pairing of two tables", 108, triangle.count(6));
-        PlanCabinet ring = tables(1, 1, 1, 1);
+        PlanCabinet ring = Questions.tables(1, 1, 1, 1);
         ring.pair(0, 0, 1, 0, 1);
         ring.pair(1, 0, 2, 0, 1);
         ring.pair(2, 0, 3, 0, 1);
         due("four in a row: 27 * 40", 1080, ring.count(6));
         ring.pair(0, 0, 3, 0, 1);
         due("a ring: 27 * 80", 2160, ring.count(6));
-        PlanCabinet star = tables(1, 1, 1, 1);
+        PlanCabinet star = Questions.tables(1, 1, 1, 1);
         star.pair(0, 0, 1, 0, 1);
         star.pair(0, 0, 2, 0, 1);
         star.pair(0, 0, 3, 0, 1);
@@ -1187,7 +1112,7 @@ public final class PromiseTest {
     /** Of all refusals at once: the state answers afterwards what it did before. */
     private static void refusalsChangeNothing() {
         promise = 0;
-        PlanCabinet c = three();
+        PlanCabinet c = Questions.three();
         c.order(1, 0);
         c.read(0);
         c.read(1);

@@ -23,10 +23,10 @@ public final class RoomTest {
 
         start = allocated();
         for (int i = 0; i < CALLS / 2; i++) {
-            c.order(1 + i % 2, 2);
+            c.order(1, 0);
             c.spans();
         }
-        Check.due("spans", 7, c.spans());
+        Check.due("spans", 8, c.spans());
         check(counts, "spans told anew", BYTES_FOR_ONE_RUN, allocated() - start);
 
         start = allocated();
@@ -54,20 +54,20 @@ public final class RoomTest {
         }
     }
 
-    /** With the orders that are set above it has seven spans, the most that a search found. */
+    /** With the order of 1, 0 it has eight spans; a search of all questions found no more. */
     private static PlanCabinet great() {
         PlanCabinet c = new PlanCabinet();
-        int[] rows = {8, 8, 6, 4};
+        int[] rows = {8, 8, 7, 8};
         for (int t = 0; t < 4; t++) {
             c.table();
             for (int row = 0; row < rows[t]; row++) {
                 c.row(t, 1, 1, 1);
             }
         }
-        c.pair(1, 1, 3, 1, 2);
-        c.pair(1, 2, 2, 2, 1);
-        c.pair(0, 2, 3, 0, 0);
-        c.pair(0, 0, 2, 0, 2);
+        c.pair(0, 1, 1, 0, 0);
+        c.pair(1, 0, 2, 1, 2);
+        c.pair(1, 0, 3, 1, 2);
+        c.pair(2, 1, 3, 1, 1);
         return c;
     }
 

@@ -18,6 +18,7 @@ public final class BoundsOfBestTest {
         pointsAreZeroToThirtyTwo();
         bestOfSeveralIsTheFirst();
         spansHaveNumbersBetween();
+        spansBetweenOthersHaveNumbersBetween();
         spansAreOfOtherPlansThanBefore();
         spansGoFromZeroToFour();
         bordersHaveNoCommonDivisor();
@@ -131,6 +132,28 @@ public final class BoundsOfBestTest {
         borderIs(middle, 1, 2, 1, 4, 1);
         middle.best(16);
         codeIs(middle, 0, 4, 0, 4, 1, 2);
+    }
+
+    private static void spansBetweenOthersHaveNumbersBetween() {
+        Check.sentence("a whole PLAN has the least PRICE .. at all numbers between (inner ones)");
+        // 18 + 15x, 24 + 12x, 32 + 9x and 42 + 6x; at 8/3, where the second and the third one
+        // meet, 26 + 11.25x is 56, too. All of these are below where the first and the last meet.
+        PlanCabinet c = Questions.tables(4, 3, 3, 2);
+        c.pair(0, 0, 1, 0, 2);
+        c.pair(1, 0, 2, 0, 3);
+        c.pair(1, 0, 3, 0, 0);
+        Check.due("what is least at an inner border alone has no span", 4, c.spans());
+        borderIs(c, 0, 0, 1, 2, 1);
+        borderIs(c, 1, 2, 1, 8, 3);
+        borderIs(c, 2, 8, 3, 10, 3);
+        borderIs(c, 3, 10, 3, 4, 1);
+        int[] constants = {18, 24, 32, 42};
+        int[] slopes = {15, 12, 9, 6};
+        for (int i = 0; i < 4; i++) {
+            int plan = c.keen(i);
+            Check.due("a of " + i, 256 * constants[i], c.price(plan, 0));
+            Check.due("b of " + i, 256 * slopes[i], c.price(plan, 1));
+        }
     }
 
     private static void spansAreOfOtherPlansThanBefore() {

@@ -20,6 +20,7 @@ public final class BoundsOfPlansTest {
         priceIsThatOfBothAndMore();
         orderCostsAWholePlanAlone();
         inOrderByTheLeastPairing();
+        inOrderByNoPairingInside();
         partsAreWhole();
         withoutAnOpenOneBIsZero();
         readOfNoTable();
@@ -261,6 +262,27 @@ public final class BoundsOfPlansTest {
                 Check.due(what, in, c.about(2 + i, 2));
                 Check.due(what, (4 + own[i] + (in == 1 ? 0 : 12)) * 256, c.price(2 + i, 0));
             }
+        }
+    }
+
+    private static void inOrderByNoPairingInside() {
+        Check.sentence("IN ORDER: .. the least PAIRING between both (lesser ones are inside a part)");
+        // 0 - 1 is the least one, 1 - 2 the next: between 0 1 and 2 the next one is the least.
+        for (int inside = 0; inside < 2; inside++) {
+            PlanCabinet c = Questions.tables(2, 2, 2);
+            c.pair(0, 0, 1, 0, 4);
+            c.pair(1, 1, 2, 1, 4);
+            c.order(inside == 1 ? 0 : 2, inside == 1 ? 0 : 1);
+            Questions.readAll(c);
+            int part = c.join(2, 0, 1);
+            int[] plans = {c.join(2, part, 2), c.join(2, 2, part), c.join(2, 1, 2), c.join(2, 2, 1)};
+            Check.due("0 with 1", inside, c.about(part, 2));
+            for (int plan : plans) {
+                Check.due("code " + c.code(plan, 1), 1 - inside, c.about(plan, 2));
+            }
+            // 6 rows, SORTED of 2 and 2 and of 4 and 2, and 3 times 8 if the order is made.
+            Check.due("0 1 with 2", (6 + 12 + 18 + 24 * inside) * 256, c.price(plans[0], 0));
+            Check.due("2 with 0 1", (6 + 12 + 18 + 24 * inside) * 256, c.price(plans[1], 0));
         }
     }
 

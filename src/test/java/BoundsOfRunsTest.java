@@ -10,6 +10,7 @@ public final class BoundsOfRunsTest {
         allPairingsBetweenHold();
         sortedRises();
         sortedLeavesThoseAlike();
+        sortedWhateverTheTables();
         sortedByTheLeastPairing();
         stepsAreOfCombinations();
         orderIsRisingAtTheEnd();
@@ -18,6 +19,7 @@ public final class BoundsOfRunsTest {
         runOfNoPlan();
         runOfNoCombination();
         runOfAllCombinations();
+        runOfAGrownQuestion();
         stepsWithoutARun();
         stepsOfTheLatestRun();
         outWithoutARun();
@@ -141,6 +143,42 @@ public final class BoundsOfRunsTest {
         all.join(2, 0, 1);
         Check.due("all alike", 6, all.run(2));
         outIs(all, 2, 0, 0, 0, 1, 0, 2, 1, 0, 1, 1, 1, 2);
+    }
+
+    private static void sortedWhateverTheTables() {
+        Check.sentence("what the least PAIRING between has (of each TABLE with each)");
+        for (int t = 0; t < 3; t++) {
+            for (int u = t + 1; u < 4; u++) {
+                PlanCabinet c = fourAround(t, u);
+                int other = c.join(0, t == 0 ? (u == 1 ? 2 : 1) : 0, t);
+                int[] plans = {c.join(2, t, u), c.join(2, u, t), c.join(2, other, u), c.join(2, u, other)};
+                for (int plan : plans) {
+                    Check.due(t + " with " + u, 3, c.run(plan));
+                    for (int i = 0; i < 3; i++) {
+                        Check.due(t + " with " + u + ", low row", (i + 1) % 3, c.out(i, t));
+                        Check.due(t + " with " + u + ", high row", (i + 2) % 3, c.out(i, u));
+                    }
+                }
+            }
+        }
+    }
+
+    /** Table t has 3 1 2 in column 0, u has 2 3 1 in column 1; the others have a row for each. */
+    private static PlanCabinet fourAround(int t, int u) {
+        PlanCabinet c = new PlanCabinet();
+        for (int table = 0; table < 4; table++) {
+            c.table();
+            for (int row = 0; row < 3 && (row == 0 || table == t || table == u); row++) {
+                c.row(table, table == t ? 1 + (row + 2) % 3 : 0, table == u ? 1 + (row + 1) % 3 : 0, 7);
+            }
+        }
+        c.pair(t, 0, u, 1, 1);
+        for (int table = 0; table < 4; table++) {
+            if (table != t && table != u) {
+                c.pair(Math.min(table, t), 2, Math.max(table, t), 2, 4);
+            }
+        }
+        return Questions.readAll(c);
     }
 
     private static void sortedByTheLeastPairing() {
@@ -311,6 +349,28 @@ public final class BoundsOfRunsTest {
         c.join(0, 5, 4);
         Check.due("the other way round", 4096, c.run(7));
         Check.due("the last one", 7, c.out(4095, 0));
+    }
+
+    private static void runOfAGrownQuestion() {
+        Check.sentence("20: how many combinations (the question has grown since the last RUN)");
+        PlanCabinet c = Questions.tables(1, 1);
+        c.pair(0, 2, 1, 2, 4);
+        allOf(c, 1, 1);
+        for (int rows = 2; rows <= 8; rows++) {
+            c.row(1, 0, 0, 7);
+            allOf(c, rows - 1, rows);
+            c.row(0, 0, 0, 7);
+            allOf(c, rows, rows);
+        }
+    }
+
+    /** Runs a join of both tables, in which all combinations hold, and takes the plans away. */
+    private static void allOf(PlanCabinet c, int lows, int highs) {
+        Questions.readAll(c);
+        Check.due(lows + " and " + highs, lows * highs, c.run(c.join(0, 0, 1)));
+        Check.due("the last one, 0", lows - 1, c.out(lows * highs - 1, 0));
+        Check.due("the last one, 1", highs - 1, c.out(lows * highs - 1, 1));
+        c.clear();
     }
 
     private static void stepsWithoutARun() {
